@@ -23,7 +23,7 @@ public final class WaveRows {
     private static final int MOST_LAGS = 46;
 
     private final Tape tape = new Tape();
-    private final Reader reader = new Reader(tape);
+    private final Reader reader = new Reader();
     private Scene now = new Scene();
     private Scene draft = new Scene();
     private final Scene[] images = new Scene[IMAGES];
@@ -68,7 +68,7 @@ public final class WaveRows {
     }
 
     public int field() {
-        int lines = reader.readInto(draft);
+        int lines = reader.readInto(draft, tape);
         tape.length = 0;
         if (lines == NONE) {
             return -1 - reader.faultPlace;
@@ -1368,7 +1368,8 @@ public final class WaveRows {
 
         int faultPlace;
         int faultKind;
-        private final Tape tape;
+        private int[] bytes = new int[0];
+        private int length;
         private int next;
         private int kind;
         private int start;
@@ -1379,12 +1380,10 @@ public final class WaveRows {
         private final long[] senderName = new long[MOST_SENDERS];
         private final long[] stationName = new long[MOST_STATIONS];
 
-        Reader(Tape tape) {
-            this.tape = tape;
-        }
-
         /** How many lines; NONE with a fault. */
-        int readInto(Scene draft) {
+        int readInto(Scene draft, Tape tape) {
+            bytes = tape.bytes;
+            length = tape.length;
             draft.clear();
             faultKind = 0;
             directions = USUAL_DIRECTIONS;
@@ -1403,7 +1402,7 @@ public final class WaveRows {
         }
 
         private boolean readToEnd(Scene draft) {
-            if (tape.length > MOST_TEXT) {
+            if (length > MOST_TEXT) {
                 return blame(CANNOT_COME);
             }
             draft.lattice.spread(directions);
@@ -1645,8 +1644,8 @@ public final class WaveRows {
 
         /** Goes on to the next token; none begins at the text's greatest length or behind it. */
         private void advance() {
-            int limit = Math.min(tape.length, MOST_TEXT);
-            while (next < limit && (tape.bytes[next] == ' ' || tape.bytes[next] == '\n')) {
+            int limit = Math.min(length, MOST_TEXT);
+            while (next < limit && (bytes[next] == ' ' || bytes[next] == '\n')) {
                 next++;
             }
             start = Math.min(next, limit);
@@ -1657,7 +1656,7 @@ public final class WaveRows {
             if (readRun()) {
                 return;
             }
-            int sign = tape.bytes[next];
+            int sign = bytes[next];
             kind = sign == ';' ? SEMICOLON : sign == '-' ? MINUS : STRAY;
             next++;
         }
@@ -1668,8 +1667,8 @@ public final class WaveRows {
             int digits = 0;
             word = 0;
             value = 0;
-            for (; next < tape.length; next++) {
-                int sign = tape.bytes[next];
+            for (; next < length; next++) {
+                int sign = bytes[next];
                 if (sign >= 'a' && sign <= 'z') {
                     letters++;
                     word = word << 8 | sign;
