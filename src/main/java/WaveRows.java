@@ -16,6 +16,7 @@ public final class WaveRows {
     private static final int MOST_MOMENT = 999;
     private static final int MOST_MADE = 3;
     private static final int MOST_LIARS = 2;
+    private static final int MOST_TRUE_DIRECTIONS = 2;
     private static final int MOST_TRACKED = 8;
     private static final int MOST_TOLD_TO_NULL = 7;
     private static final int IMAGES = 2;
@@ -288,7 +289,7 @@ public final class WaveRows {
     }
 
     public int liars(int k) {
-        if (takeReadings() != now.hearers || k < 0 || k > 2) {
+        if (takeReadings() != now.hearers || k < 0 || k > MOST_TRUE_DIRECTIONS) {
             return NOT_AS_MANY;
         }
         makers.hear(now, readings);
@@ -483,6 +484,7 @@ public final class WaveRows {
         rows.solve(now.hearers, k, now.lattice.prime, makerNumber);
     }
 
+    /** Where fewer than two are to lie, the loops for those that aren't there go round once. */
     private boolean findLiars(int many, int k) {
         int sets = 0;
         int firstOuts = many > 0 ? now.hearers : 1;

@@ -9,6 +9,7 @@ public final class BearingsTest {
         throughPoints();
         fixes();
         firstOfLikeOnes();
+        mostPoints();
         latestStays();
         DUE.close("BearingsTest");
     }
@@ -120,6 +121,18 @@ public final class BearingsTest {
         fixed("three", Due.of("station a 0 0;station b 10 0;bearing a 1 1;bearing b -1 1;bearing a 2 1;"), 1, 12);
         fixed("three, all cross", Due.of("station a 0 0;station b 10 0;station c 5 0;bearing a 1 1;bearing b -1 1;"
             + "bearing c -1 9;"), 1, 2);
+    }
+
+    /** Four stations, and each bearing of one crosses each of another elsewhere: 24 points. */
+    private static void mostPoints() {
+        WaveRows x = Due.of("station a 0 0;station b 10 0;station c 20 0;station d 30 0;bearing a 9 1;bearing a 7 1;"
+            + "bearing b 3 2;bearing b 1 1;bearing c -1 2;bearing c -1 1;bearing d -4 1;bearing d -9 1;");
+        for (int a = 0; a < 8; a++) {
+            for (int b = a + 1; b < 8; b++) {
+                DUE.is("24 points: through(" + a + ", " + b + ")", x.through(a, b), a / 2 == b / 2 ? -1 : 1 << a | 1 << b);
+            }
+        }
+        fixed("24 points", x, 2, 13, 46, 57);
     }
 
     private static void latestStays() {

@@ -12,6 +12,8 @@ public final class GivenReadingsTest {
         losing();
         fewest();
         fewestOfMany();
+        fewestFromZero();
+        most();
         fewestNotAsTold();
         liars();
         liarsNotAsTold();
@@ -184,6 +186,66 @@ public final class GivenReadingsTest {
         made("a gain 0", v, 1, 1, 1);
     }
 
+    private static void fewestFromZero() {
+        WaveRows x = Due.of("lattice 5;hearer 0;hearer 1;hearer 2;hearer 3;hearer 4;");
+        int p = x.count(1);
+        int[] two = new int[5];
+        int[] three = new int[5];
+        for (int h = 0; h < 5; h++) {
+            two[h] = (5 * x.wave(1, h) + (p - 5) * x.wave(3, h)) % p;
+            three[h] = (two[h] + 7 * x.wave(2, h) + (p - 7) * x.wave(4, h)) % p;
+        }
+        DUE.is("the first is 0", fewest(x, two), 2);
+        made("the first is 0", x, 1, 1, 5, 3, p - 5);
+        DUE.is("four, the first is 0", fewest(x, three), -1);
+        DUE.is("the first is 0, lied about", lying(x, 2, two[0], two[1], two[2], two[3], two[4] + 1), 1);
+        first("the first is 0, lied about", x, 1, 4);
+        // Directions 3 apart are twins: one of each pair of twins, and never both.
+        WaveRows y = Due.of("lattice 6;hearer 0;hearer 2;hearer 4;");
+        int[] r = new int[3];
+        for (int h = 0; h < 3; h++) {
+            r[h] = (8 + 5 * y.wave(1, 2 * h) + 3 * y.wave(2, 2 * h)) % P;
+        }
+        DUE.is("three, of twins", fewest(y, r), 3);
+        made("three, of twins", y, 8, 0, 8, 1, 5, 2, 3);
+    }
+
+    /** As much of all as there may be. */
+    private static void most() {
+        WaveRows x = Due.of("lattice 60;hearer 90;hearer 91;hearer 92;hearer 93;hearer 94;hearer 95;hearer 96;hearer 97;"
+            + "hearer 98;hearer 99 gain 3;sender a 59 999;sender b 1 1;sender c 2 1;sender d 3 1;sender e 4 1;"
+            + "sender f 5 1 drifts 59;");
+        int p = x.count(1);
+        int[] r = new int[10];
+        for (int h = 0; h < 10; h++) {
+            r[h] = (h == 9 ? 3 : 1) * ((4 * x.wave(59, 90 + h) + 5 * x.wave(58, 90 + h)) % p + 6 * x.wave(57, 90 + h)) % p;
+        }
+        DUE.is("ten: fewest", fewest(x, r), 3);
+        made("ten: fewest", x, 1, 57, 6, 58, 5, 59, 4);
+        DUE.is("ten: liars(2)", lying(x, 2, r), -1);
+        for (int h = 0; h < 10; h++) {
+            r[h] = (h == 9 ? 3 : 1) * ((4 * x.wave(59, 90 + h) + 5 * x.wave(58, 90 + h)) % p) % p;
+        }
+        r[8] = (r[8] + 1) % p;
+        r[9] = (r[9] + 1) % p;
+        DUE.is("ten: liars(2), two of them", lying(x, 2, r), 2);
+        first("ten: liars(2), two of them", x, 1, 8, 9);
+        DUE.is("ten: nulled", nulled(x, 59, 0, 1, 2, 3, 4, 5), true);
+        DUE.is("ten: comes(59)", x.comes(59), 1);
+        DUE.is("ten: comes(5)", x.comes(5), 0);
+        DUE.is("ten: number(9)", x.number(9), 0);
+        for (int h = 0; h < 10; h++) {
+            r[h] = 2 * (h + 1) * x.wave(7, 90 + h) % p;
+        }
+        DUE.is("ten: mend", mended(x, 7, r), true);
+        gains("ten: mend", x, 1, 2, 3, 4, 5, 6, 7, 8, 9, 10);
+        DUE.is("ten: lose(9)", x.lose(9), 9);
+        gains("ten: lose(9)", x, 1, 2, 3, 4, 5, 6, 7, 8, 9);
+        WaveRows y = Due.of("lattice 2;hearer 5 gain 4;");
+        DUE.is("one: mend", mended(y, 1, 9), true);
+        gains("one: mend", y, 4);
+    }
+
     private static void fewestNotAsTold() {
         WaveRows x = Due.of(FOUR);
         DUE.is("too few", fewest(x, 0, 0, 0), -2);
@@ -298,6 +360,7 @@ public final class GivenReadingsTest {
         DUE.is("three: comes(2)", x.comes(2), 0);
         DUE.is("four of three hearers", nulled(x, 0, 1, 2, 3), false);
         DUE.is("twice the same", nulled(x, 0, 2, 2), false);
+        DUE.is("twice the same, not side by side", nulled(x, 1, 0, 2, 0), false);
         DUE.is("the first again", nulled(x, 0, 2, 0), false);
         DUE.is("no direction told", nulled(x), false);
         DUE.is("no such direction", nulled(x, 4), false);

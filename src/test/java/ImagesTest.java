@@ -56,6 +56,18 @@ public final class ImagesTest {
         DUE.is("the other: count(1)", x.count(1), 1021);
         DUE.is("the other: count(7)", x.count(7), 0);
         DUE.is("the other: hearer(0, 0)", x.hearer(0, 0), 9);
+        flocks();
+    }
+
+    private static void flocks() {
+        WaveRows x = Due.of("sender a 1 1;sender b 1 1;sender c 1 1 like b;sender d 1 1 like c;");
+        x.image(0);
+        Due.told(x, "sender a 1 1;sender b 1 1 like a;sender c 1 1;sender d 1 1;");
+        x.restore(0);
+        int[] due = {0, 1, 1, 1};
+        for (int s = 0; s < due.length; s++) {
+            DUE.is("restored: sender(" + s + ", 3)", x.sender(s, 3), due[s]);
+        }
     }
 
     /** What goes on after does not reach what is kept, nor the other way. */

@@ -137,6 +137,13 @@ public final class RulesTest {
         DUE.is("20, 0, 40: rule(0)", y.rule(0), 2);
         DUE.is("20, 0, 40: ruleAt(1)", y.ruleAt(1), 0);
         DUE.is("20, 0, 40: ruleAt(2)", y.ruleAt(2), 2);
+        WaveRows z = Due.of("lattice 4;" + hearers(4, 0) + "sender s 0 10;sender u 2 10;");
+        DUE.is("20, 0, 20, 0: rule(0)", z.rule(0), 2);
+        DUE.is("20, 0, 20, 0: ruleAt(1)", z.ruleAt(1), 0);
+        DUE.is("20, 0, 20, 0: ruleAt(2)", z.ruleAt(2), 1);
+        DUE.is("20, 0, 20, 0: roots()", z.roots(), 5);
+        DUE.is("20, 0, 20, 0: strength(0)", z.strength(0), 10);
+        DUE.is("20, 0, 20, 0: strength(1)", z.strength(1), 10);
     }
 
     private static void latestStays() {

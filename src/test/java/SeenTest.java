@@ -9,6 +9,7 @@ public final class SeenTest {
         twins();
         smoothing();
         smoothingOfUneven();
+        smoothingOfMost();
         DUE.close("SeenTest");
     }
 
@@ -100,6 +101,14 @@ public final class SeenTest {
         DUE.is("gained: smoothed(2)", y.smoothed(2), 1);
         DUE.is("gained: smoothSeen(2)", y.smoothSeen(2), 0);
         DUE.is("gained: seen()", y.seen(), bits(3));
+    }
+
+    private static void smoothingOfMost() {
+        WaveRows x = Due.of("lattice 60;" + hearers(10, 90) + "sender a 59 1;sender b 0 2;sender c 31 3;");
+        DUE.is("ten: smoothed(10)", x.smoothed(10), 3);
+        DUE.is("ten: smoothSeen(10)", x.smoothSeen(10), bits(59, 0, 31));
+        DUE.is("ten: smoothed(1)", x.smoothed(1), 1);
+        DUE.is("ten: smoothSeen(1)", x.smoothSeen(1), (1L << 60) - 1);
     }
 
     private static void smoothingOfUneven() {

@@ -87,6 +87,18 @@ public final class TapeAndTextTest {
         Due.text(x, "hearer 3;hearer x;");
         x.end(9);
         DUE.is("the first nine", x.field(), 1);
+        // Nothing behind the end is read, nor what stood there.
+        Due.text(x, "hearer 12345;");
+        x.end(8);
+        DUE.is("cut within a number", x.field(), -9);
+        DUE.is("cut within a number: fault()", x.fault(), 1);
+        Due.text(x, "hearer 1;;");
+        x.end(9);
+        DUE.is("cut behind a line", x.field(), 1);
+        for (int i = 0; i < 47; i++) {
+            x.feed(0x61616161, 0x61616161, 0x61616161, 0x61616161, 0x61616161);
+        }
+        DUE.is("a word of 940 letters", x.field(), -1);
     }
 
     private static void fields() {
@@ -109,6 +121,11 @@ public final class TapeAndTextTest {
         DUE.is("the old stations are gone", x.count(5), 0);
         DUE.is("the old bearings are gone", x.count(6), 0);
         DUE.is("two hearers", x.count(3), 2);
+        x.moment(5);
+        Due.told(x, "hearer 8;");
+        x.moment(6);
+        Due.told(x, "hearer 9;");
+        DUE.is("at moment 0, whatever it was", x.count(7), 0);
         DUE.is("no line", x.field(), 0);
         DUE.is("no hearers", x.count(3), 0);
         DUE.is("blanks alone", Due.told(x, " \n "), 0);

@@ -155,6 +155,7 @@ public final class WavesTest {
         DUE.is("lag(7)", x.lag(7), 13 * (10 * W[3] + 3) % P);
         DUE.is("lag(2)", x.lag(2), -1);
         DUE.is("lag(99)", x.lag(99), -1);
+        DUE.is("lag(99) of 0 and 99", Due.of("hearer 99;hearer 0;sender a 0 3;").lag(99), 9);
         DUE.is("lag(100)", x.lag(100), -1);
         DUE.is("lag(-1)", x.lag(-1), -1);
         // A gain that is 0 now.
