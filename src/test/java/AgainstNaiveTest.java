@@ -9,8 +9,10 @@ import java.util.TreeMap;
 
 /** Runs of calls by chance, from seeds told here, on the program and on the naive telling of the document. */
 public final class AgainstNaiveTest {
-    private static final int RUNS = 1500;
-    private static final int CALLS = 120;
+    private static final int RUNS = 1800;
+    private static final int STEPS = 120;
+    // An object is used for 512 calls at most, and a step takes some 110 of them at most.
+    private static final int LAST_STEP_BEGINS = 400;
 
     // With -Dhistogram=true: how often each call was due to answer what, to see what the runs reach.
     private static final boolean HISTOGRAM = Boolean.getBoolean("histogram");
@@ -18,6 +20,7 @@ public final class AgainstNaiveTest {
 
     private static int wrong = 0;
     private static long calls = 0;
+    private static int most = 0;
 
     private final Random chance;
     private final Texts texts;
@@ -26,6 +29,7 @@ public final class AgainstNaiveTest {
     private final StringBuilder told = new StringBuilder();
     private final int seed;
     private boolean apart = false;
+    private int made = 0;
 
     private AgainstNaiveTest(int seed) {
         this.seed = seed;
@@ -37,8 +41,11 @@ public final class AgainstNaiveTest {
         int from = args.length > 0 ? Integer.parseInt(args[0]) : 0;
         int runs = args.length > 1 ? Integer.parseInt(args[1]) : RUNS;
         for (int seed = from; seed < from + runs && wrong < 10; seed++) {
-            new AgainstNaiveTest(seed).goOn();
+            AgainstNaiveTest run = new AgainstNaiveTest(seed);
+            run.goOn();
+            most = Math.max(most, run.made);
         }
+        System.out.println("at most " + most + " calls of an object");
         SEEN.forEach((answer, times) -> System.out.println(times + " " + answer));
         System.out.println(calls + " calls against the naive telling, " + wrong + " wrong");
         if (wrong != 0) {
@@ -60,6 +67,7 @@ public final class AgainstNaiveTest {
         Class<?>[] types = new Class<?>[args.length];
         Arrays.fill(types, int.class);
         calls++;
+        made++;
         try {
             Object got = answer(program, WaveRows.class.getMethod(name, types), args);
             Object want = answer(naive, Naive.class.getMethod(name, types), args);
@@ -79,13 +87,19 @@ public final class AgainstNaiveTest {
     }
 
     private void goOn() {
-        for (int i = 0; seed % 5 == 0 && i < CALLS / 6 && !apart; i++) {
+        for (int i = 0; seed % 5 == 0 && goesOn(i); i++) {
             tell(texts.text());
         }
-        tell(texts.rightText());
-        for (int i = 0; i < CALLS && !apart; i++) {
+        if (goesOn(0)) {
+            tell(texts.rightText());
+        }
+        for (int i = 0; goesOn(i); i++) {
             callAny();
         }
+    }
+
+    private boolean goesOn(int step) {
+        return step < STEPS && made < LAST_STEP_BEGINS && !apart;
     }
 
     private void tape(List<Integer> bytes) {

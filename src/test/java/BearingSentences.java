@@ -1,6 +1,5 @@
 /** The sentences of BEARINGS, where they CROSS, and the FIX: promises 37 to 40, and their terms. */
 final class BearingSentences {
-    private static final String TERMS = "Terms";
     private static final int[] FAR = {Integer.MIN_VALUE, -2, -1, 8, 32, 64, Integer.MAX_VALUE};
     private static final String TWO = "station a 0 0;station b 10 0;";
 
@@ -36,7 +35,7 @@ final class BearingSentences {
     }
 
     private static void going(Sentences s) {
-        s.says(TERMS, "BEARINGS go from their STATION on, in steps of DX, DY times any number above 0.", t -> {
+        s.terms("Promise 37: cross", "BEARINGS go from their STATION on, in steps of DX, DY times any number above 0.", t -> {
             WaveRows x = Due.of(TWO + "bearing a 10 10;bearing b -1 1;bearing a 99 0;bearing b 0 1;");
             crossed(t, x, 0, 1, 5, 1, 5, 1);
             crossed(t, x, 0, 3, 10, 1, 10, 1);
@@ -54,7 +53,7 @@ final class BearingSentences {
     }
 
     private static void crossing(Sentences s) {
-        s.says(TERMS, "Two of unlike STATIONS CROSS, if they have just one point together"
+        s.terms("Promise 37: cross", "Two of unlike STATIONS CROSS, if they have just one point together"
             + " (exact; their STATIONS are none of it).", t -> {
             apart(t, "of one STATION", "station a 3 3;bearing a 1 0;bearing a 1 1;");
             apart(t, "parallel", TWO + "bearing a 1 1;bearing b 2 2;");
@@ -84,6 +83,10 @@ final class BearingSentences {
             crossed(t, x, 2, 3, 10, 1, -15, 1);
             // 0 in least numbers is 0 by 1.
             crossed(t, x, 4, 5, 0, 1, 0, 1);
+            // One half and a whole, in whatever order.
+            crossed(t, Due.of(TWO + "bearing a 1 2;bearing b -3 2;"), 0, 1, 5, 2, 5, 1);
+            crossed(t, Due.of("station a 0 0;station b 0 10;bearing a 2 1;bearing b 2 -3;"), 0, 1, 5, 1, 5, 2);
+            crossed(t, Due.of("station a 0 0;station b 1 0;bearing a 1 1;bearing b 0 1;"), 0, 1, 1, 1, 1, 1);
             WaveRows unlike = Due.of("station a -1 0;station b 2 -1;bearing a 1 2;bearing b -2 3;");
             // -1 + u = 2 - 2v and 2u = -1 + 3v: u is 1, v is 1.
             crossed(t, unlike, 0, 1, 0, 1, 2, 1);
@@ -159,6 +162,12 @@ final class BearingSentences {
                 t.is("through(" + far + ", 1)", x.through(far, 1), -1);
             }
             t.is("no BEARINGS: through(0, 1)", new WaveRows().through(0, 1), -1);
+            WaveRows eight = Due.of(TWO + "bearing a 1 1;bearing b -1 1;bearing b -2 1;bearing b -3 1;bearing b -4 1;"
+                + "bearing b -5 1;bearing b -6 1;bearing b -7 1;");
+            t.is("eight: through(0, 7)", eight.through(0, 7), 129);
+            t.is("eight: through(0, 8)", eight.through(0, 8), -1);
+            t.is("eight: through(8, 0)", eight.through(8, 0), -1);
+            t.noSuch("eight: cross(0, 8, 0)", () -> eight.cross(0, 8, 0));
         });
     }
 
@@ -172,7 +181,7 @@ final class BearingSentences {
     }
 
     private static void fixTerm(Sentences s) {
-        s.says(TERMS, "FIX: the fewest points where BEARINGS CROSS such that each BEARING goes through one of them;", t -> {
+        s.terms("Promise 38: fix", "FIX: the fewest points where BEARINGS CROSS such that each BEARING goes through one of them;", t -> {
             fixed(t, "no BEARINGS", TWO);
             fixed(t, "two", TWO + "bearing a 1 1;bearing b -1 1;", 1);
             fixed(t, "eight through one point", "station a 0 0;station b 10 0;station c 5 0;bearing a 1 1;bearing a 2 2;"
@@ -184,7 +193,7 @@ final class BearingSentences {
             fixed(t, "three by one point, and one more", TWO + "station c 5 0;bearing a 1 1;bearing b -1 1;"
                 + "bearing a 2 1;bearing c 0 1;", 1, 12);
         });
-        s.says(TERMS, "of like ones the first (a point by the first BEARING, then the second, of the first pair that CROSSES"
+        s.terms("Promise 39: fixAt", "of like ones the first (a point by the first BEARING, then the second, of the first pair that CROSSES"
             + " there; rows of such points, rising).", t -> {
             fixed(t, "{02, 13} or {03, 12}", TWO + "bearing a 1 1;bearing a 2 1;bearing b -1 1;bearing b -2 1;", 2, 13);
             fixed(t, "{01, 23} or {03, 12}", TWO + "bearing a 1 1;bearing b -1 1;bearing a 2 1;bearing b -2 1;", 1, 23);

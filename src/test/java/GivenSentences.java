@@ -1,6 +1,5 @@
 /** The sentences of READINGS given, hearers lost, and what is NULLED: promises 24 to 36, and their terms. */
 final class GivenSentences {
-    private static final String TERMS = "Terms";
     private static final int P = 1009;
     private static final int[] W = {1, 469, 1008, 540};
     private static final int[] FAR = {Integer.MIN_VALUE, -3, -2, 10, 60, 1000, Integer.MAX_VALUE};
@@ -70,7 +69,7 @@ final class GivenSentences {
     }
 
     private static void tracksTerm(Sentences s) {
-        s.says(TERMS, "TRACKS of one SENDER alone: D and V (0 to N less 1 both) with which, for some A, READINGS given of a"
+        s.terms("Promise 24: tracks", "TRACKS of one SENDER alone: D and V (0 to N less 1 both) with which, for some A, READINGS given of a"
             + " HEARER at moments 0, 1, 2, .. are GAIN times A times WAVE of D and V times the moment at its PLACE.", t -> {
             WaveRows x = Due.of("lattice 4;hearer 0;hearer 1 gain 3;hearer 2;hearer 99;");
             t.is("a drift by 3", tracked(x, 1, 6 * W[1] % P, 6 * W[0], 6 * W[3] % P, 6 * W[2] % P), 4);
@@ -157,7 +156,9 @@ final class GivenSentences {
             mended(deaf, 0, 1, 0, 1, 1);
             t.is("no GAIN: any A does", tracked(deaf, 1, 0, 0), 16);
             toldTrack(t, "no GAIN: the least A", deaf, 0, 0, 0);
-            t.is("no GAIN, a reading that isn't 0", tracked(deaf, 1, 0, 1), 0);
+            t.is("no GAIN, a reading that isn't 0", tracked(deaf, 1, 5), 0);
+            t.is("no GAIN, readings that aren't 0", tracked(deaf, 1, 5, 5), 0);
+            t.is("no GAIN, the last that isn't 0", tracked(deaf, 1, 0, 0, 1), 0);
         });
         s.says(track, "NONE: another what, or ahead of any.", t -> {
             WaveRows x = Due.of(FOUR);
@@ -175,7 +176,7 @@ final class GivenSentences {
     }
 
     private static void enough(Sentences s) {
-        s.says(TERMS, "ENOUGH: the fewest HEARERS (then the least set as bits) by which alone no direction has a TWIN.", t -> {
+        s.terms("Promise 26: enough", "ENOUGH: the fewest HEARERS (then the least set as bits) by which alone no direction has a TWIN.", t -> {
             t.is("the first two", Due.of(FOUR).enough(), 3);
             t.is("the least set", Due.of("lattice 4;hearer 0;hearer 2;hearer 1;hearer 3;").enough(), 5);
             t.is("the last two alone", Due.of("lattice 4;hearer 0;hearer 4;hearer 8;hearer 3;").enough(), 9);
@@ -235,7 +236,7 @@ final class GivenSentences {
     }
 
     private static void makes(Sentences s) {
-        s.says(TERMS, "MAKES: directions (unlike ones, rising) make READINGS given, if with some numbers, one each,"
+        s.terms("Promise 28: fewest", "MAKES: directions (unlike ones, rising) make READINGS given, if with some numbers, one each,"
             + " GAINS times the sum of number times WAVE is each READING.", t -> {
             WaveRows x = Due.of("lattice 4;hearer 0 gain 3;hearer 1 gain 5;hearer 99;");
             t.is("with gains", fewest(x, 3 * 7, 5 * 7 * W[1] % P, 7 * W[3] % P), 1);
@@ -254,7 +255,7 @@ final class GivenSentences {
     }
 
     private static void fewestTerm(Sentences s) {
-        s.says(TERMS, "FEWEST: the least k from 0 to 3 for which k directions make them; how many such sets"
+        s.terms("Promise 28: fewest", "FEWEST: the least k from 0 to 3 for which k directions make them; how many such sets"
             + " (DIRECTIONS by their numbers), the first one (the lesser first, then the next).", t -> {
             WaveRows x = Due.of(FOUR);
             t.is("0", fewest(x, 0, 0, 0, 0), 0);
@@ -263,6 +264,12 @@ final class GivenSentences {
             t.is("2", fewest(x, 2, 0, 2, 0), 2);
             t.is("3", fewest(x, 7, 1 + 2 * W[1] + 4 * W[3], 1 + 6 * W[2], 1 + 2 * W[3] + 4 * W[1]), 3);
             t.is("4 are too many", fewest(x, 5, 0, 0, 0), -1);
+            t.is("all alike, but the first is 0", fewest(x, 0, 5, 5, 5), -1);
+            t.is("all alike, but the last is 0", fewest(x, 5, 5, 5, 0), -1);
+            t.is("the first is 0", fewest(x, 0, 5 * (W[1] + P - W[3]) % P, 0, 5 * (W[3] + P - W[1]) % P), 2);
+            t.is("the first is 0: made(0)", x.made(0), 1);
+            t.is("the first is 0: madeBy(1)", x.madeBy(1), P - 5);
+            threeFromPlaceOne(t);
             WaveRows twins = Due.of("lattice 4;hearer 0;hearer 2;");
             t.is("twins: one", fewest(twins, 9, P - 9), 1);
             t.is("twins: sets of one", twins.made(-1), 2);
@@ -279,6 +286,29 @@ final class GivenSentences {
             t.is("there are no three", fewest(two, 1, 2, 3), -1);
             t.is("all that there are", fewest(two, 1, 2, 1), 2);
         });
+    }
+
+    private static void threeFromPlaceOne(Sentences t) {
+        WaveRows x = Due.of("lattice 7;" + hearers(5, 1));
+        int[] r = new int[5];
+        for (int h = 0; h < 5; h++) {
+            r[h] = (5 * x.wave(1, 1 + h) + 6 * x.wave(3, 1 + h) + 7 * x.wave(6, 1 + h)) % x.count(1);
+        }
+        t.is("3 of 7", fewest(x, r), 3);
+        int[] due = {1, 5, 3, 6, 6, 7};
+        for (int k = 0; k < 3; k++) {
+            t.is("3 of 7: made(" + k + ")", x.made(k), due[2 * k]);
+            t.is("3 of 7: madeBy(" + k + ")", x.madeBy(k), due[2 * k + 1]);
+        }
+        t.is("3 of 7: sets", x.made(-1), 1);
+        // Directions 3 apart are twins: one of each pair, and never both.
+        WaveRows twins = Due.of("lattice 6;hearer 0;hearer 2;hearer 4;");
+        for (int h = 0; h < 3; h++) {
+            r[h] = (8 + 5 * twins.wave(1, 2 * h) + 3 * twins.wave(2, 2 * h)) % P;
+        }
+        t.is("3 of 3 pairs of twins", fewest(twins, r[0], r[1], r[2]), 3);
+        t.is("3 of 3 pairs of twins: sets", twins.made(-1), 8);
+        t.is("3 of 3 pairs of twins: made(2)", twins.made(2), 2);
     }
 
     private static void fewest(Sentences s) {
@@ -405,7 +435,7 @@ final class GivenSentences {
     }
 
     private static void liarsTerm(Sentences s) {
-        s.says(TERMS, "LIARS for k (0 to 2) directions: the fewest HEARERS (2 at most) without which k directions at most"
+        s.terms("Promise 31: liars", "LIARS for k (0 to 2) directions: the fewest HEARERS (2 at most) without which k directions at most"
             + " make the READINGS of the others; how many such sets; the first (the lesser first).", t -> {
             WaveRows x = Due.of(FOUR);
             t.is("0 directions, no liar", lying(x, 0, 0, 0, 0, 0), 0);
@@ -418,6 +448,8 @@ final class GivenSentences {
             t.is("1 direction at most: 0 do", lying(x, 1, 0, 0, 0, 0), 0);
             t.is("1 direction, one", lying(x, 1, 4, 4, 4, 5), 1);
             toldLiars(t, "1 direction, one", x, 1, 3);
+            t.is("1 direction, the first", lying(x, 1, 0, 4, 4, 4), 1);
+            toldLiars(t, "1 direction, the first", x, 1, 0);
             t.is("1 direction, two", lying(x, 1, 4, 4, 5, 5), 2);
             toldLiars(t, "1 direction, two", x, 2, 0, 1);
             t.is("2 directions at most: 1 does", lying(x, 2, 4, 4, 4, 4), 0);
@@ -521,7 +553,7 @@ final class GivenSentences {
     }
 
     private static void nulledTerm(Sentences s) {
-        s.says(TERMS, "NULLED: numbers, one for each HEARER, such that, each times GAIN times WAVE of d, added, they come to"
+        s.terms("Promise 33: nulled", "NULLED: numbers, one for each HEARER, such that, each times GAIN times WAVE of d, added, they come to"
             + " 1 for one direction and to 0 for others (0 to 6 told, unlike);", t -> {
             WaveRows x = Due.of("lattice 4;hearer 0 gain 2;hearer 1;hearer 2;");
             t.is("no others", nulled(x, 3), true);
@@ -539,13 +571,19 @@ final class GivenSentences {
             t.is("two alike of the others", nulled(eight, 0, 1, 2, 1), false);
             t.is("one as the first", nulled(eight, 1, 0, 1), false);
         });
-        s.says(TERMS, "of all such, from the first HEARER on, each one is 0 the column of which is made of those of lesser ones.", t -> {
+        s.terms("Promise 34: number", "of all such, from the first HEARER on, each one is 0 the column of which is made of those of lesser ones.", t -> {
             WaveRows x = Due.of("lattice 4;hearer 2;hearer 0;hearer 1;");
             t.is("by 0 and 2 alone", nulled(x, 0, 2), true);
             numbers(t, "by 0 and 2 alone", x, 505, 0, 505);
             WaveRows ten = Due.of("lattice 60;" + hearers(10, 0));
             t.is("one direction", nulled(ten, 0), true);
             numbers(t, "one direction", ten, 1, 0, 0, 0, 0, 0, 0, 0, 0, 0);
+            // Of earlier numbers nothing is left: the first HEARER has no gain now.
+            Due.told(x, "lattice 4;hearer 5;hearer 0;hearer 1;hearer 2;");
+            mended(x, 0, 1, 0, 1, 1);
+            x.lose(0);
+            t.is("after others", nulled(x, 1, 3), true);
+            numbers(t, "after others", x, 0, W[3] * 505 % P, P - 505);
             // A column of 0, for it has no gain, is made of none.
             WaveRows deaf = Due.of("lattice 4;hearer 5;hearer 0;");
             mended(deaf, 0, 1, 0);
@@ -639,6 +677,13 @@ final class GivenSentences {
             t.is("directions of now", x.comes(4), (a * 3L * x.wave(4, 1) + b * (long) x.wave(4, 2)) % 1021);
             mended(x, 0, 1, 0);
             t.is("gains of now", x.comes(0), 3 * a % 1021);
+            WaveRows ten = Due.of("lattice 2;" + hearers(10, 0));
+            nulled(ten, 1, 0);
+            t.is("ten: comes(0)", ten.comes(0), 0);
+            t.is("ten: comes(1)", ten.comes(1), 1);
+            Due.told(ten, "lattice 2;" + hearers(9, 0));
+            nulled(ten, 1);
+            t.is("nine, after ten: comes(0)", ten.comes(0), 1);
         });
         s.says(comes, "NONE: no such direction, another many, or ahead of any.", t -> {
             WaveRows x = Due.of("lattice 4;hearer 0;hearer 1;");
@@ -670,7 +715,7 @@ final class GivenSentences {
     }
 
     private static void hidden(Sentences s) {
-        s.says(TERMS, "HIDDEN gains: of READINGS given by one SENDER alone in a direction d: each through WAVE, by that of"
+        s.terms("Promise 36: mend", "HIDDEN gains: of READINGS given by one SENDER alone in a direction d: each through WAVE, by that of"
             + " the first HEARER; times the GAIN of the first.", t -> {
             WaveRows x = Due.of("lattice 4;hearer 1 gain 6;hearer 2 gain 9;hearer 4;");
             t.is("mend(1)", mended(x, 1, 30 * W[1] % P, 70 * W[2] % P, 5), true);

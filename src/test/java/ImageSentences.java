@@ -22,7 +22,8 @@ final class ImageSentences {
             x.moment(5);
             t.is("image(0)", x.image(0), true);
             String kept = State.of(x);
-            Due.told(x, "lattice 5;hearer 9;station z 9 9;sender a 4 1;sender b 2 2;");
+            Due.told(x, "lattice 5;hearer 9;hearer 8;hearer 7;station z 9 9;sender a 4 1;sender b 2 2;sender c 1 1;"
+                + "bearing z 1 0;");
             x.moment(2);
             t.is("image(1)", x.image(1), true);
             String other = State.of(x);
@@ -31,6 +32,8 @@ final class ImageSentences {
             x.moment(3);
             t.is("restore(0)", x.restore(0), true);
             t.same("place 0", State.of(x), kept);
+            t.is("restore(1)", x.restore(1), true);
+            t.same("place 1", State.of(x), other);
         });
         s.says(image, "are kept in place k (0, 1)", t -> {
             WaveRows x = Due.of("hearer 5;hearer 6;");

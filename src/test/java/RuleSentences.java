@@ -1,6 +1,5 @@
 /** The sentences of the shortest RULE of a row, its ROOTS and their STRENGTHS: promises 20 to 23, and their terms. */
 final class RuleSentences {
-    private static final String TERMS = "Terms";
     private static final int P = 1009;
     private static final int[] FAR = {Integer.MIN_VALUE, -2, -1, 11, 46, 47, 1000, Integer.MAX_VALUE};
 
@@ -55,7 +54,7 @@ final class RuleSentences {
     }
 
     private static void shortest(Sentences s) {
-        s.says(TERMS, "RULE of a row s0 .. sn: the least k for which there are c1 .. ck with"
+        s.terms("Promise 20: rule", "RULE of a row s0 .. sn: the least k for which there are c1 .. ck with"
             + " st = c1 s(t-1) + .. + ck s(t-k) for all t from k to n;", t -> {
             ruled(t, Due.of("hearer 0;"));
             ruled(t, Due.of(hearers(10, 0)));
@@ -75,7 +74,7 @@ final class RuleSentences {
     }
 
     private static void leastNumbers(Sentences s) {
-        s.says(TERMS, "of these, from c1 on, each one is 0 the column of which (s(t-j) for all t) is made of those of"
+        s.terms("Promise 21: ruleAt", "of these, from c1 on, each one is 0 the column of which (s(t-j) for all t) is made of those of"
             + " lesser ones.", t -> {
             // 5 is half 5 times 2, and 9 is a quarter of 9 times 4.
             ruled(t, row(2, 1, 2, 5), 5 * 505, 0);
@@ -85,11 +84,23 @@ final class RuleSentences {
             ruled(t, row(2, 1, 0, 0, 5), 0, 0, 5);
             ruled(t, row(2, 3, 0, 3, 0), 0, 1);
             ruled(t, row(2, 1, 1, 1, 2), 2, 0, 0);
+            // Of an earlier rule nothing is left.
+            WaveRows x = row(2, 1, 1, 2, 3, 5);
+            ruled(t, x, 1, 1);
+            Due.readings(x, 1, 0, 1, 0, 1);
+            x.mend(0);
+            ruled(t, x, 0, 1);
+            Due.readings(x, 1, 0, 0, 5, 0);
+            x.mend(0);
+            ruled(t, x, 0, 0, 5);
+            Due.readings(x, 1, 0, 0, 0, 0);
+            x.mend(0);
+            ruled(t, x, 0);
         });
     }
 
     private static void rootsOfRules(Sentences s) {
-        s.says(TERMS, "ROOTS: directions d with x^k = c1 x^(k-1) + .. + ck for x = WAVE of d at 1.", t -> {
+        s.terms("Promise 22: roots", "ROOTS: directions d with x^k = c1 x^(k-1) + .. + ck for x = WAVE of d at 1.", t -> {
             rooted(t, "nothing heard", Due.of("lattice 60;hearer 0;"), 0);
             rooted(t, "5", row(60, 5), 0);
             rooted(t, "5, 0", row(60, 5, 0), 0);
@@ -112,7 +123,7 @@ final class RuleSentences {
     }
 
     private static void strengthsOfRules(Sentences s) {
-        s.says(TERMS, "STRENGTHS: where a RULE has as many ROOTS as numbers (1 at least): numbers, one for each ROOT, with"
+        s.terms("Promise 23: strength", "STRENGTHS: where a RULE has as many ROOTS as numbers (1 at least): numbers, one for each ROOT, with"
             + " which st is the sum of number times WAVE of the ROOT at t, for t from 0 to k less 1.", t -> {
             strong(t, "no number, no ROOT", Due.of("lattice 60;hearer 0;"));
             strong(t, "one number, no ROOT", row(2, 1, 2, 4));
@@ -231,6 +242,12 @@ final class RuleSentences {
             t.is("after NONE", x.roots(), 1L << 59 | 8);
             t.is("of two LAGS", x.rule(1), 1);
             t.is("none now", x.roots(), 0);
+            Due.told(x, "lattice 60;" + hearers(10, 0) + "sender a 59 4;sender b 3 5;sender c 30 6;");
+            t.is("three", x.rule(0) == 3 && x.roots() == (1L << 59 | 8 | 1 << 30), true);
+            Due.told(x, "lattice 60;" + hearers(10, 0) + "sender b 58 5;");
+            t.is("one, after three", x.rule(0) == 1 && x.roots() == 1L << 58, true);
+            Due.told(x, "lattice 60;" + hearers(10, 0));
+            t.is("none, after one", x.rule(0) == 0 && x.roots() == 0, true);
         });
     }
 

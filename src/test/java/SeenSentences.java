@@ -1,6 +1,5 @@
 /** The sentences of ORDER, SEEN, TWINS, rows SMOOTHED, and places between places: promises 12 to 19, and their terms. */
 final class SeenSentences {
-    private static final String TERMS = "Terms";
     private static final int P = 1009;
     private static final int[] W = {1, 469, 1008, 540};
     private static final int[] FAR = {Integer.MIN_VALUE, -2, -1, 100, 1000, Integer.MAX_VALUE};
@@ -46,7 +45,7 @@ final class SeenSentences {
     }
 
     private static void order(Sentences s) {
-        s.says(TERMS, "ORDER of a row of rows of numbers: how many of its rows none of which is made of the others"
+        s.terms("Promise 12: order", "ORDER of a row of rows of numbers: how many of its rows none of which is made of the others"
             + " (its rank by P).", t -> {
             // 999 and 10 come to P, so that nothing is left by it.
             t.is("a flock of P", Due.of("hearer 0;sender a 0 999;sender b 0 10 like a;").order(), 0);
@@ -74,7 +73,7 @@ final class SeenSentences {
     }
 
     private static void seen(Sentences s) {
-        s.says(TERMS, "SEEN: directions d for which the column of GAINS times WAVES of d at all HEARERS is made of columns"
+        s.terms("Promise 13: seen", "SEEN: directions d for which the column of GAINS times WAVES of d at all HEARERS is made of columns"
             + " of COVER.", t -> {
             WaveRows x = Due.of("hearer 0 gain 7;hearer 1 gain 300;hearer 2;hearer 5 gain 999;sender a 3 10;sender b 10 1;");
             t.is("two", x.seen(), bits(3, 10));
@@ -101,7 +100,7 @@ final class SeenSentences {
     }
 
     private static void twins(Sentences s) {
-        s.says(TERMS, "TWINS of d: other directions e for which WAVES of e are those of d times one number at all HEARERS.", t -> {
+        s.terms("Promise 14: twins", "TWINS of d: other directions e for which WAVES of e are those of d times one number at all HEARERS.", t -> {
             t.is("no HEARERS", Due.of("lattice 2;").twins(1), 1);
             t.is("one HEARER", Due.of("lattice 2;hearer 7;").twins(1), 1);
             t.is("1 apart", Due.of("hearer 0;hearer 1;").twins(1), 0);
@@ -130,7 +129,7 @@ final class SeenSentences {
     }
 
     private static void even(Sentences s) {
-        s.says(TERMS, "EVEN: HEARERS stand, in the order told, each one PLACE behind the one ahead.", t -> {
+        s.terms("Promise 15: smoothed", "EVEN: HEARERS stand, in the order told, each one PLACE behind the one ahead.", t -> {
             evenOrNot(t, "hearer 0;", true);
             evenOrNot(t, "hearer 99;", true);
             evenOrNot(t, "hearer 98;hearer 99;", true);
@@ -163,7 +162,7 @@ final class SeenSentences {
     }
 
     private static void smoothed(Sentences s) {
-        s.says(TERMS, "SMOOTHED by n (1 to all HEARERS, EVEN ones): n rows of n: for k, l the sum of COVERS of k and s,"
+        s.terms("Promise 15: smoothed", "SMOOTHED by n (1 to all HEARERS, EVEN ones): n rows of n: for k, l the sum of COVERS of k and s,"
             + " l and s for all s from 0 on that there are.", t -> {
             // 28 times 28 and 15 times 15 come to P.
             WaveRows x = Due.of("hearer 0 gain 28;hearer 1 gain 15;sender a 0 1;");
@@ -178,7 +177,7 @@ final class SeenSentences {
             t.is("one row of three: smoothSeen(3)", y.smoothSeen(3), 0);
             t.is("one row of three: order()", y.order(), y.smoothed(3));
         });
-        s.says(TERMS, "SEEN by it: as above, of WAVES at 0 .. n less 1, without GAINS.", t -> {
+        s.terms("Promise 16: smoothSeen", "SEEN by it: as above, of WAVES at 0 .. n less 1, without GAINS.", t -> {
             // From place 20 on, the rows are as from place 0.
             WaveRows x = Due.of(hearers(4, 20) + "sender a 3 10;sender b 11 1 like a;");
             t.is("told apart by three", x.smoothSeen(3), bits(3, 11));
@@ -234,7 +233,7 @@ final class SeenSentences {
     }
 
     private static void apart(Sentences s) {
-        s.says(TERMS, "APART l: how many pairs of HEARERS (in order) stand PLACES l apart, the first one farther"
+        s.terms("Promise 17: apart", "APART l: how many pairs of HEARERS (in order) stand PLACES l apart, the first one farther"
             + " (0: each with itself).", t -> {
             WaveRows x = Due.of("hearer 5;hearer 2;hearer 6;hearer 3;hearer 99;");
             int[] due = {5, 2, 1, 2, 1, 0};
@@ -256,6 +255,7 @@ final class SeenSentences {
             t.is("apart(99)", x.apart(99), 1);
             t.is("apart(98)", x.apart(98), 1);
             t.is("apart(97)", x.apart(97), 0);
+            t.is("apart(-99)", x.apart(-99), -1);
             for (int l : FAR) {
                 t.is("apart(" + l + ")", x.apart(l), -1);
                 t.is("no HEARERS: apart(" + l + ")", new WaveRows().apart(l), -1);
@@ -266,7 +266,7 @@ final class SeenSentences {
     }
 
     private static void run(Sentences s) {
-        s.says(TERMS, "RUN: the greatest l such that each of 0 .. l is there; none without HEARERS.", t -> {
+        s.terms("Promise 18: run", "RUN: the greatest l such that each of 0 .. l is there; none without HEARERS.", t -> {
             t.is("one alone", Due.of("hearer 50;").run(), 0);
             t.is("1 is not there", Due.of("hearer 0;hearer 2;hearer 5;").run(), 0);
             t.is("two", Due.of("hearer 51;hearer 50;").run(), 1);
@@ -291,7 +291,7 @@ final class SeenSentences {
     }
 
     private static void lag(Sentences s) {
-        s.says(TERMS, "LAG l: COVER of the first such pair (by the first HEARER, then the other) through both GAINS"
+        s.terms("Promise 19: lag", "LAG l: COVER of the first such pair (by the first HEARER, then the other) through both GAINS"
             + " (0, if one is 0).", t -> {
             // Pairs one apart: hearers 2 and 1 (places 1, 0), then 3 and 0 (9, 8).
             WaveRows x = Due.of("lattice 4;hearer 8 gain 5;hearer 0 gain 7;hearer 1 gain 11;hearer 9 gain 13;"
@@ -325,6 +325,9 @@ final class SeenSentences {
             for (int l : FAR) {
                 t.is("lag(" + l + ")", x.lag(l), -1);
             }
+            // The first one is the farther one: less than 0 there is none.
+            t.is("lag(-3)", x.lag(-3), -1);
+            t.is("lag(-99)", x.lag(-99), -1);
             t.is("no HEARERS: lag(0)", new WaveRows().lag(0), -1);
             t.is("no SENDERS: lag(0)", Due.of("hearer 5;").lag(0), 0);
             t.is("one alone: lag(1)", Due.of("hearer 5;").lag(1), -1);

@@ -25,10 +25,22 @@ final class Sentences {
         long answer();
     }
 
-    /** One sentence and its test; an exception out of the test is wrong, and the other tests go on. */
+    /** One sentence that stands under that heading, and its test. */
     void says(String heading, String sentence, Look look) {
         quoted.computeIfAbsent(heading, h -> new ArrayList<>()).add(plain(sentence));
-        where = heading + ", \"" + sentence + "\": ";
+        test(heading + ", \"" + sentence + "\": ", look);
+    }
+
+    /** One sentence of the terms, and its test by a promise that uses it. */
+    void terms(String promise, String sentence, Look look) {
+        quoted.computeIfAbsent(promise, h -> new ArrayList<>());
+        quoted.computeIfAbsent("Terms", h -> new ArrayList<>()).add(plain(sentence));
+        test(promise + ", by the terms, \"" + sentence + "\": ", look);
+    }
+
+    /** An exception out of a test is wrong, and the other tests go on. */
+    private void test(String name, Look look) {
+        where = name;
         tests++;
         int before = looked;
         try {

@@ -1,6 +1,5 @@
 /** The sentences of the tape, of the text of a field and of its faults: promises 1 to 5 and 43, and their terms. */
 final class TextSentences {
-    private static final String TERMS = "Terms";
 
     private TextSentences() {
     }
@@ -47,7 +46,7 @@ final class TextSentences {
     }
 
     private static void tokens(Sentences s) {
-        s.says(TERMS, "TOKENS of all texts, with blanks (32, 10) between them or not:", t -> {
+        s.terms("Promise 4: field", "TOKENS of all texts, with blanks (32, 10) between them or not:", t -> {
             t.right("hearer 1 gain 2;hearer 3;", 2);
             t.right(" hearer\n1\n\n gain  2 ; \n hearer 3;\n ", 2);
             t.right("station a-1-2;bearing a-0-1;", 2);
@@ -56,7 +55,7 @@ final class TextSentences {
                 t.wrong((char) other + "hearer 1;", 0, 1);
             }
         });
-        s.says(TERMS, "WORDS: small letters, 1 to 7;", t -> {
+        s.terms("Promise 4: field", "WORDS: small letters, 1 to 7;", t -> {
             t.right("sender a 0 1;sender z 0 1;", 2);
             t.right("sender abcdefg 0 1;sender abcdefz 0 1;sender bbcdefg 0 1;sender abcdef 0 1;", 4);
             t.wrong("sender abcdefgh 0 1;", 7, 1);
@@ -67,7 +66,7 @@ final class TextSentences {
             t.wrong("sender " + (char) 225 + " 0 1;", 7, 1);
             t.wrong("Hearer 1;", 0, 1);
         });
-        s.says(TERMS, "NUMBERS: 1 to 3 digits;", t -> {
+        s.terms("Promise 4: field", "NUMBERS: 1 to 3 digits;", t -> {
             for (int digit = 0; digit <= 9; digit++) {
                 t.is("the place", t.right("hearer " + digit + ";", 1).hearer(0, 0), digit);
             }
@@ -78,7 +77,7 @@ final class TextSentences {
             t.wrong("hearer /;", 7, 1);
             t.wrong("hearer :;", 7, 1);
         });
-        s.says(TERMS, "; - .", t -> {
+        s.terms("Promise 4: field", "; - .", t -> {
             t.right("hearer 1 ; station a - 1 0 ;", 2);
             t.wrong(";", 0, 1);
             t.wrong("-", 0, 1);
@@ -92,7 +91,7 @@ final class TextSentences {
             t.wrong("hearer 1;.", 9, 1);
             t.wrong("hearer 1,", 8, 1);
         });
-        s.says(TERMS, "(A WORD, NUMBER goes on as long as small letters and digits do; what is not as told is no TOKEN.)", t -> {
+        s.terms("Promise 4: field", "(A WORD, NUMBER goes on as long as small letters and digits do; what is not as told is no TOKEN.)", t -> {
             t.wrong("hearer1;", 0, 1);
             t.wrong("lattice2;", 0, 1);
             t.wrong("hearer 1gain 2;", 7, 1);
@@ -105,11 +104,22 @@ final class TextSentences {
             t.wrong("hearer 100a;", 7, 1);
             t.wrong("hearer 100 a;", 7, 2);
             t.wrong("hearer 1A;", 8, 1);
+            t.wrong("a".repeat(940), 0, 1);
+            t.wrong("1".repeat(940), 0, 1);
+            // As long as they do, and no longer than the tape: what stood behind its end is not read.
+            WaveRows x = new WaveRows();
+            Due.text(x, "hearers 1;");
+            x.end(6);
+            t.is("hearers, of which hearer is left", x.field(), -7);
+            Due.text(x, "hearer 1234;");
+            x.end(10);
+            t.is("1234, of which 123 is left", x.field(), -8);
+            t.is("1234, of which 123 is left: fault()", x.fault(), 2);
         });
     }
 
     private static void lines(Sentences s) {
-        s.says(TERMS, "A FIELD is a text of at most 900 bytes: { LINE ; }.", t -> {
+        s.terms("Promise 4: field", "A FIELD is a text of at most 900 bytes: { LINE ; }.", t -> {
             t.right("", 0);
             t.right(" \n ", 0);
             t.right("hearer 1;", 1);
@@ -123,7 +133,7 @@ final class TextSentences {
             t.wrong("hearer 1;;", 9, 1);
             t.wrong("hearer 1 hearer 2;", 9, 1);
         });
-        s.says(TERMS, "LINE: 'lattice' N (2 to 60 DIRECTIONS; 12 without; once, ahead of all senders)", t -> {
+        s.terms("Promise 4: field", "LINE: 'lattice' N (2 to 60 DIRECTIONS; 12 without; once, ahead of all senders)", t -> {
             t.is("the least N", t.right("lattice 2;", 1).count(0), 2);
             t.is("the greatest N", t.right("lattice 60;", 1).count(0), 60);
             t.wrong("lattice 1;", 8, 2);
@@ -136,7 +146,7 @@ final class TextSentences {
             t.wrong("lattice 5;lattice 5;", 10, 3);
             t.wrong("sender a 0 1;lattice 5;", 13, 3);
         });
-        s.says(TERMS, "| 'hearer' PLACE [ 'gain' G ] (0 to 99, each once; 1 to 999, 1 without)", t -> {
+        s.terms("Promise 4: field", "| 'hearer' PLACE [ 'gain' G ] (0 to 99, each once; 1 to 999, 1 without)", t -> {
             WaveRows x = t.right("hearer 0 gain 1;hearer 99 gain 999;hearer 98;", 3);
             int[] due = {0, 1, 99, 999, 98, 1};
             for (int i = 0; i < due.length; i++) {
@@ -153,14 +163,14 @@ final class TextSentences {
             t.wrong("hearer 1 gain 2 gain 2;", 16, 1);
         });
         sender(s);
-        s.says(TERMS, "| 'station' NAME X Y", t -> {
+        s.terms("Promise 4: field", "| 'station' NAME X Y", t -> {
             t.is("stations", t.right("station a 1 2;station b 1 2;", 2).count(5), 2);
             t.wrong("station 1 2;", 8, 1);
             t.wrong("station a;", 9, 1);
             t.wrong("station a 1;", 11, 1);
             t.wrong("station a 1 2 3;", 14, 1);
         });
-        s.says(TERMS, "| 'bearing' STATION DX DY (not both 0).", t -> {
+        s.terms("Promise 4: field", "| 'bearing' STATION DX DY (not both 0).", t -> {
             t.is("bearings", t.right("station a 1 2;bearing a 0 1;bearing a 1 0;bearing a 1 1;", 4).count(6), 3);
             t.wrong("station a 1 2;bearing a 0 0;", 26, 2);
             t.wrong("station a 1 2;bearing a -0 -0;", 28, 2);
@@ -168,7 +178,7 @@ final class TextSentences {
             t.wrong("station a 1 2;bearing 1 1;", 22, 1);
             t.wrong("station a 1 2;bearing a 1 1 1;", 28, 1);
         });
-        s.says(TERMS, "X, Y, DX, DY: [ '-' ] NUMBER (0 to 99).", t -> {
+        s.terms("Promise 4: field", "X, Y, DX, DY: [ '-' ] NUMBER (0 to 99).", t -> {
             t.right("station a 99 -99;station b -99 99;station c -0 - 1;bearing a 99 -99;bearing b - 99\n99;", 5);
             String ahead = "station a ";
             for (int k = 0; k < 2; k++) {
@@ -191,7 +201,7 @@ final class TextSentences {
     }
 
     private static void sender(Sentences s) {
-        s.says(TERMS, "| 'sender' NAME D A [ 'drifts' V ] [ 'like' SENDER ]"
+        s.terms("Promise 4: field", "| 'sender' NAME D A [ 'drifts' V ] [ 'like' SENDER ]"
             + " (0 to N less 1; 1 to 999; 0 to N less 1, 0 without)", t -> {
             WaveRows x = t.right("sender a 0 1 drifts 0;sender b 11 999 drifts 11 like a;sender c 1 2 like b;", 3);
             int[] due = {0, 1, 0, 0, 11, 999, 11, 0, 1, 2, 0, 0};
@@ -220,7 +230,7 @@ final class TextSentences {
     }
 
     private static void names(Sentences s) {
-        s.says(TERMS, "NAME: a WORD, none of those told here; told once.", t -> {
+        s.terms("Promise 4: field", "NAME: a WORD, none of those told here; told once.", t -> {
             for (String word : "lattice hearer gain sender drifts like station bearing".split(" ")) {
                 t.wrong("sender " + word + " 0 1;", 7, 1);
                 t.wrong("station " + word + " 0 1;", 8, 1);
@@ -239,7 +249,7 @@ final class TextSentences {
             t.wrong(many("sender ? 0 1;", 6) + "station f 0 1;", 86, 3);
             t.wrong(many("station ? 0 1;", 4) + "sender d 0 1;", 63, 3);
         });
-        s.says(TERMS, "10 HEARERS, 6 SENDERS, 4 STATIONS, 8 BEARINGS at most, numbered from 0 each.", t -> {
+        s.terms("Promise 4: field", "10 HEARERS, 6 SENDERS, 4 STATIONS, 8 BEARINGS at most, numbered from 0 each.", t -> {
             WaveRows x = t.right(many("hearer 1*;", 10) + many("sender ? 1* 1;", 2).replace("b 11", "b 10")
                 + many("station x? * 1;", 4) + many("bearing xa 1 *;", 8) + "sender c 5 1;sender d 6 1;sender e 7 1;"
                 + "sender f 8 9;", 28);
@@ -256,7 +266,7 @@ final class TextSentences {
             t.wrong(many("station ? 1 1;", 4) + "station e 1 1;", 56, 4);
             t.wrong("station a 1 1;" + many("bearing a 1 *;", 8) + "bearing a 1 1;", 126, 4);
         });
-        s.says(TERMS, "numbered from 0 each.", t -> {
+        s.terms("Promise 40: through", "numbered from 0 each.", t -> {
             WaveRows x = Due.of("station a 0 0;station b 10 0;bearing a 1 1;" + many("bearing a -1 -*;", 6)
                 + "bearing b -1 1;");
             t.is("the first BEARING and the last: through(0, 7)", x.through(0, 7), 1 + 128);
@@ -265,7 +275,7 @@ final class TextSentences {
     }
 
     private static void faultsOfTokens(Sentences s) {
-        s.says(TERMS, "FAULTS, the first along the text, of one TOKEN the least:", t -> {
+        s.terms("Promise 5: fault", "FAULTS, the first along the text, of one TOKEN the least:", t -> {
             t.wrong("hearer 100 gain 0;hearer .;", 7, 2);
             t.wrong("hearer 1;hearer 1 gain 0;", 16, 3);
             t.wrong("hearer 1 gain 0;hearer 1;", 14, 2);
@@ -280,7 +290,7 @@ final class TextSentences {
             t.wrong("station a 0 0;bearing like 0 0;", 22, 1);
             t.wrong("sender a 0 1 like sender;", 18, 1);
         });
-        s.says(TERMS, "1 no TOKEN, or one that can't come (at it; the end: how many bytes there are;", t -> {
+        s.terms("Promise 5: fault", "1 no TOKEN, or one that can't come (at it; the end: how many bytes there are;", t -> {
             t.wrong("#", 0, 1);
             t.wrong("  #", 2, 1);
             t.wrong("hearer #;", 7, 1);
@@ -297,7 +307,7 @@ final class TextSentences {
                 cutAt(t, line, cut);
             }
         });
-        s.says(TERMS, "900, if there are more and no FAULT is ahead: TOKENS that begin ahead of it are read whole);", t -> {
+        s.terms("Promise 5: fault", "900, if there are more and no FAULT is ahead: TOKENS that begin ahead of it are read whole);", t -> {
             t.wrong(padded("hearer 1;", 891, " "), 900, 1);
             t.wrong(padded("hearer 1;", 931, ""), 900, 1);
             t.wrong(padded("hearer", 893, "1;"), 900, 1);
@@ -314,6 +324,8 @@ final class TextSentences {
             t.wrong(padded("hearer", 892, "99;"), 900, 1);
             t.wrong(padded("hearer", 893, "100;"), 899, 2);
             t.wrong(padded("hearer", 893, "1000;"), 899, 1);
+            t.wrong(padded("hearer 1;", 890, "a".repeat(41)), 899, 1);
+            t.wrong(padded("hearer 1;", 891, "a".repeat(40)), 900, 1);
             t.wrong(padded("lattice 4;", 889, "lattice 5;"), 899, 3);
             t.wrong(padded(many("hearer 1*;", 10), 799, "hearer 1;"), 899, 4);
             t.wrong(padded(many("hearer 1*;", 10), 800, "hearer 1;"), 900, 1);
@@ -338,7 +350,7 @@ final class TextSentences {
     }
 
     private static void faultsOfNumbersAndNames(Sentences s) {
-        s.says(TERMS, "2 a NUMBER that is not as told (at it; both 0: at the second one);", t -> {
+        s.terms("Promise 5: fault", "2 a NUMBER that is not as told (at it; both 0: at the second one);", t -> {
             t.wrong("lattice 1;", 8, 2);
             t.wrong("lattice\n 61;", 9, 2);
             t.wrong("hearer 100", 7, 2);
@@ -355,7 +367,7 @@ final class TextSentences {
             t.wrong("station a 0 0;bearing a 0 000", 26, 2);
             t.wrong("station a 0 0;bearing a -0 - 0;", 29, 2);
         });
-        s.says(TERMS, "3 a NAME told twice, not told, or of another sort, a PLACE told twice (at it),", t -> {
+        s.terms("Promise 5: fault", "3 a NAME told twice, not told, or of another sort, a PLACE told twice (at it),", t -> {
             t.wrong("sender a 0 1;sender a", 20, 3);
             t.wrong("sender a 0 1;station a", 21, 3);
             t.wrong("sender a 0 1 like b;", 18, 3);
@@ -368,7 +380,7 @@ final class TextSentences {
             t.wrong("sender ab 0 1;sender b 0 1 like a;", 32, 3);
             t.wrong("hearer 5;hearer 05;", 16, 3);
         });
-        s.says(TERMS, "lattice told twice or behind a sender (at its WORD);", t -> {
+        s.terms("Promise 5: fault", "lattice told twice or behind a sender (at its WORD);", t -> {
             t.wrong("lattice 5; lattice 5;", 11, 3);
             t.wrong("lattice 5;hearer 1;lattice", 19, 3);
             t.wrong("lattice 12;lattice 12;", 11, 3);
@@ -376,7 +388,7 @@ final class TextSentences {
             t.wrong("lattice 5;sender a 0 1;lattice 5;", 23, 3);
             t.wrong("sender a 0 1;lattice .", 13, 3);
         });
-        s.says(TERMS, "4 an 11th HEARER, a seventh SENDER, a fifth STATION, a ninth BEARING (at the LINE's first WORD).", t -> {
+        s.terms("Promise 5: fault", "4 an 11th HEARER, a seventh SENDER, a fifth STATION, a ninth BEARING (at the LINE's first WORD).", t -> {
             t.wrong(many("hearer 1*;", 10) + " hearer 1;", 101, 4);
             t.wrong(many("hearer 1*;", 10) + "hearer", 100, 4);
             t.wrong(many("sender ? 1 1;", 6) + "\nsender g 1 1;", 79, 4);
@@ -495,6 +507,7 @@ final class TextSentences {
                 t.is("another: count(" + what + ")", x.count(what), due[what]);
             }
             t.is("another: its gain", x.hearer(0, 1), 1);
+            oneFieldAfterAnother(t);
             t.is("of no bytes", x.field(), 0);
             t.is("of no bytes: hearers", x.count(3), 0);
         });
@@ -509,6 +522,36 @@ final class TextSentences {
                 + "bearing x 1 0;", 901 - 69, "")), -901);
             t.same("the FIELD stays, and its moment", State.of(x), ahead.replace("fault 0", "fault 1"));
         });
+    }
+
+    /** Full ones and bare ones by turns: nothing of any comes back, and names are free again. */
+    private static void oneFieldAfterAnother(Sentences t) {
+        WaveRows x = new WaveRows();
+        String full = "lattice 60;hearer 1 gain 9;hearer 2 gain 8;sender a 59 3 drifts 2;sender b 1 1 like a;station c 0 0;"
+            + "station d 10 0;bearing c 1 1;bearing d -1 1;bearing d -2 1;";
+        int[] bare = {12, 1009, ByHand.root(12), 0, 0, 0, 0};
+        int[] whole = {60, 1021, ByHand.root(60), 2, 2, 2, 3};
+        int[] due = bare;
+        String[] texts = {full, full, "", "", full, full + ".", "", full + ".", "", full};
+        for (String text : texts) {
+            int lines = text.equals(full) ? 10 : text.isEmpty() ? 0 : -1 - full.length();
+            t.is("field() of \"" + text + "\"", Due.told(x, text), lines);
+            if (lines >= 0) {
+                due = lines == 0 ? bare : whole;
+            }
+            for (int what = 0; what < due.length; what++) {
+                t.is("then: count(" + what + ")", x.count(what), due[what]);
+            }
+        }
+        Due.told(x, full.replace("bearing d -2 1;", ""));
+        Due.told(x, full);
+        Due.told(x, "hearer 5;sender b 1 1;sender a 1 1;station d 0 0;station c 10 0;bearing d 1 1;bearing c -1 1;");
+        t.is("unlike now: sender(1, 3)", x.sender(1, 3), 1);
+        t.is("no drift now: sender(1, 2)", x.sender(1, 2), 0);
+        t.is("no such bearing now: through(0, 2)", x.through(0, 2), -1);
+        t.noSuch("no such bearing now: cross(0, 2, 0)", () -> x.cross(0, 2, 0));
+        t.is("no such hearer now: reading(1)", x.reading(1), -1);
+        t.is("no such hearer now: order()", x.order(), 1);
     }
 
     private static void fault(Sentences s) {

@@ -1,6 +1,5 @@
 /** The sentences of hearers, senders, the moment, waves, readings and covers: promises 6 to 11, and their terms. */
 final class WaveSentences {
-    private static final String TERMS = "Terms";
     private static final int P = 1009;
     // W for 4 directions, and its powers.
     private static final int[] W = {1, 469, 1008, 540};
@@ -23,7 +22,7 @@ final class WaveSentences {
     }
 
     private static void primes(Sentences s) {
-        s.says(TERMS, "P: the least prime above 1000 of which N divides P less 1.", t -> {
+        s.terms("Promise 43: count", "P: the least prime above 1000 of which N divides P less 1.", t -> {
             int[][] told = {{2, 1009}, {3, 1009}, {5, 1021}, {10, 1021}, {11, 1013}, {12, 1009}, {13, 1093}, {59, 1063}};
             for (int[] one : told) {
                 t.is("P of " + one[0], Due.of("lattice " + one[0] + ";").count(1), one[1]);
@@ -32,7 +31,7 @@ final class WaveSentences {
                 t.is("P of " + n, Due.of("lattice " + n + ";").count(1), ByHand.prime(n));
             }
         });
-        s.says(TERMS, "W: the least number above 0 of which the N-th power is 1 by P,"
+        s.terms("Promise 43: count", "W: the least number above 0 of which the N-th power is 1 by P,"
             + " and no lower power is (from the first on).", t -> {
             t.is("W of 2", Due.of("lattice 2;").count(2), 1008);
             t.is("W of 4", Due.of("lattice 4;").count(2), 469);
@@ -40,7 +39,7 @@ final class WaveSentences {
                 t.is("W of " + n, Due.of("lattice " + n + ";").count(2), ByHand.root(n));
             }
         });
-        s.says(TERMS, "All numbers (but those of 4) are 0 to P less 1, by P;", t -> {
+        s.terms("Promise 10: reading", "All numbers (but those of 4) are 0 to P less 1, by P;", t -> {
             t.is("999 and 9", Due.of("hearer 0;sender a 0 999;sender b 0 9;").reading(0), 1008);
             t.is("999 and 10", Due.of("hearer 0;sender a 0 999;sender b 0 10;").reading(0), 0);
             t.is("999 and 11", Due.of("hearer 0;sender a 0 999;sender b 0 11;").reading(0), 1);
@@ -58,7 +57,7 @@ final class WaveSentences {
             t.is("1009 is 0", y.hearer(1, 1), 0);
             t.is("1010 is 1", y.hearer(2, 1), 1);
         });
-        s.says(TERMS, "W to the power -k is W to the power N less k's rest.", t -> {
+        s.terms("Promise 11: cover", "W to the power -k is W to the power N less k's rest.", t -> {
             for (int n : new int[] {2, 5, 12, 60}) {
                 for (int d : new int[] {0, 1, n - 1}) {
                     WaveRows x = Due.of("lattice " + n + ";hearer 0;hearer 1;hearer " + n + ";hearer 99;sender a " + d + " 1;");
@@ -74,7 +73,7 @@ final class WaveSentences {
     }
 
     private static void moments(Sentences s) {
-        s.says(TERMS, "At a moment T (0 to 999; 0 in a new FIELD) a SENDER's direction is D and V times T, its rest by N.", t -> {
+        s.terms("Promise 7: sender", "At a moment T (0 to 999; 0 in a new FIELD) a SENDER's direction is D and V times T, its rest by N.", t -> {
             WaveRows x = Due.of("lattice 5;hearer 1;sender a 4 17 drifts 3;sender b 2 1;");
             t.is("in a new FIELD", x.count(7), 0);
             int[][] due = {{0, 4}, {1, 2}, {2, 0}, {3, 3}, {999, 1}};
@@ -98,7 +97,7 @@ final class WaveSentences {
             t.is("another FIELD: count(7)", y.count(7), 0);
             t.is("another FIELD: sender(0, 0)", y.sender(0, 0), 59);
         });
-        s.says(TERMS, "(0 to 999; 0 in a new FIELD)", t -> {
+        s.terms("Promise 8: moment", "(0 to 999; 0 in a new FIELD)", t -> {
             WaveRows x = new WaveRows();
             t.is("of a new object", x.count(7), 0);
             t.is("moment(999)", x.moment(999), true);
@@ -110,7 +109,7 @@ final class WaveSentences {
     }
 
     private static void flocks(Sentences s) {
-        s.says(TERMS, "SENDERS are ALIKE: one and that which it is 'like', and so on: a FLOCK.", t -> {
+        s.terms("Promise 7: sender", "SENDERS are ALIKE: one and that which it is 'like', and so on: a FLOCK.", t -> {
             WaveRows x = Due.of("sender a 1 1;sender b 1 1;sender c 1 1 like b;sender d 1 1 like a;sender e 1 1 like c;"
                 + "sender f 1 1 like d;");
             int[] due = {0, 1, 1, 0, 1, 0};
@@ -128,7 +127,7 @@ final class WaveSentences {
     }
 
     private static void waves(Sentences s) {
-        s.says(TERMS, "WAVE of a direction d at a PLACE p: W to the power d times p.", t -> {
+        s.terms("Promise 9: wave", "WAVE of a direction d at a PLACE p: W to the power d times p.", t -> {
             for (int n : new int[] {2, 7, 60}) {
                 WaveRows x = Due.of("lattice " + n + ";");
                 for (int d : new int[] {0, 1, n / 2, n - 1}) {
@@ -161,7 +160,7 @@ final class WaveSentences {
     }
 
     private static void readings(Sentences s) {
-        s.says(TERMS, "READING of a HEARER: its GAIN times the sum, over all SENDERS, of A times WAVE of its direction"
+        s.terms("Promise 10: reading", "READING of a HEARER: its GAIN times the sum, over all SENDERS, of A times WAVE of its direction"
             + " at its PLACE.", t -> {
             WaveRows x = Due.of("lattice 4;hearer 1 gain 3;hearer 4;sender a 1 7 drifts 1;sender b 3 2;");
             t.is("reading(0)", x.reading(0), 3 * (7 * W[1] + 2 * W[3]) % P);
@@ -210,7 +209,7 @@ final class WaveSentences {
     }
 
     private static void covers(Sentences s) {
-        s.says(TERMS, "COVER of HEARERS i, j: both GAINS times the sum, over all FLOCKS, of (the sum over its SENDERS of"
+        s.terms("Promise 11: cover", "COVER of HEARERS i, j: both GAINS times the sum, over all FLOCKS, of (the sum over its SENDERS of"
             + " A times WAVE at i's PLACE) times (the sum of A times WAVE, at j's PLACE, of what N less the direction is).", t -> {
             WaveRows x = Due.of("lattice 4;hearer 1 gain 3;hearer 4;sender a 1 7 drifts 1;sender b 3 2;");
             t.is("cover(0, 0)", x.cover(0, 0), 9 * 53);
@@ -252,7 +251,7 @@ final class WaveSentences {
     }
 
     private static void throwing(Sentences s) {
-        s.says(TERMS, "A call that throws changes nothing.", t -> {
+        s.terms("Promise 6: hearer", "A call that throws changes nothing.", t -> {
             WaveRows x = Due.of("lattice 4;hearer 0 gain 2;hearer 1;sender a 1 7 drifts 1;station b 0 0;station c 4 0;"
                 + "bearing b 1 1;bearing c -1 1;bearing c 1 0;");
             x.moment(3);
